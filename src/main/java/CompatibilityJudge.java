@@ -777,10 +777,11 @@ public final class CompatibilityJudge {
         final Library library;
         /** The symbol of the client that was compiled last; it counts only if there was no error. */
         final Symbol symbol = new Symbol();
-        private final int[] candidates = new int[MEMBER_LIMIT];
-        private int candidateCount = 0;
-        /** How many methods the last client could have called, whatever its argument types. */
-        int gatheredCount = 0;
+        /** The applicable candidates of the call that was compiled last. */
+        private final int[] applicable = new int[MEMBER_LIMIT];
+        private int applicableCount = 0;
+        /** Whether the call that was compiled last could have found a method with other argument types. */
+        boolean hasNamesakes = false;
 
         Compiler(Library itsLibrary) {
             library = itsLibrary;
@@ -788,7 +789,7 @@ public final class CompatibilityJudge {
 
         int errorOf(Client client) {
             symbol.clear();
-            gatheredCount = 0;
+            hasNamesakes = false;
             if (!library.isThere(client.c)) {
                 return NO_CLASS;
             }
@@ -832,12 +833,11 @@ public final class CompatibilityJudge {
         }
 
         private int callError(Client client) {
-            gatherCandidates(client);
-            keepApplicable(client);
-            if (candidateCount == 0) {
+            gatherApplicable(client);
+            if (applicableCount == 0) {
                 return NOT_FOUND;
             }
-            int m = bestCandidate();
+            int m = bestApplicable();
             if (m == NONE) {
                 return AMBIGUOUS;
             }
@@ -849,30 +849,34 @@ public final class CompatibilityJudge {
             return 0;
         }
 
-        private void gatherCandidates(Client client) {
+        private void gatherApplicable(Client client) {
             Members members = library.members;
-            candidateCount = 0;
+            int types = library.supertypes[client.c];
+            applicableCount = 0;
             for (int m = 0; m < members.size; m++) {
                 if (members.kind[m] == METHOD && members.name[m] == client.name && members.many[m] == client.many
-                        && isCandidate(m, client)) {
-                    candidates[candidateCount] = m;
-                    candidateCount++;
+                        && (types >> members.owner[m] & 1) != 0) {
+                    hasNamesakes = true;
+                    if (library.fitsType(client.first, members.first[m])
+                            && library.fitsType(client.second, members.second[m]) && isCandidate(m, client)) {
+                        applicable[applicableCount] = m;
+                        applicableCount++;
+                    }
                 }
             }
-            gatheredCount = candidateCount;
         }
 
+        /** For a method of a supertype of the client's class, with the name and the number of parameters. */
         private boolean isCandidate(int m, Client client) {
             Members members = library.members;
             int owner = members.owner[m];
-            int types = library.supertypes[client.c];
-            if ((types >> owner & 1) == 0 || members.access[m] == PRIVATE || !library.isMemberOpen(m, client)) {
+            if (members.access[m] == PRIVATE || !library.isMemberOpen(m, client)) {
                 return false;
             }
             if ((members.flags[m] & STATIC) != 0 && library.isInterface(owner) && owner != client.c) {
                 return false;
             }
-            return !isHidden(m, types);
+            return !isHidden(m, library.supertypes[client.c]);
         }
 
         /** Whether a class between the client's class and the method's has a method with its signature. */
@@ -889,26 +893,12 @@ public final class CompatibilityJudge {
             return false;
         }
 
-        private void keepApplicable(Client client) {
-            Members members = library.members;
-            int kept = 0;
-            for (int k = 0; k < candidateCount; k++) {
-                int m = candidates[k];
-                if (library.fitsType(client.first, members.first[m])
-                        && library.fitsType(client.second, members.second[m])) {
-                    candidates[kept] = m;
-                    kept++;
-                }
-            }
-            candidateCount = kept;
-        }
-
-        private int bestCandidate() {
+        private int bestApplicable() {
             int lowest = NONE;
             int concrete = NONE;
             int concreteCount = 0;
-            for (int k = 0; k < candidateCount; k++) {
-                int m = candidates[k];
+            for (int k = 0; k < applicableCount; k++) {
+                int m = applicable[k];
                 if (isBest(m)) {
                     if (lowest == NONE) {
                         lowest = m;
@@ -924,8 +914,8 @@ public final class CompatibilityJudge {
 
         private boolean isBest(int m) {
             Members members = library.members;
-            for (int k = 0; k < candidateCount; k++) {
-                int other = candidates[k];
+            for (int k = 0; k < applicableCount; k++) {
+                int other = applicable[k];
                 if (!library.fitsType(members.first[m], members.first[other])
                         || !library.fitsType(members.second[m], members.second[other])) {
                     return false;
@@ -1503,7 +1493,7 @@ public final class CompatibilityJudge {
             if (compileProbe() && verdictOf(probe) == verdict) {
                 return sampleValue(what);
             }
-            if (!probe.advance(compilers[OLD].gatheredCount == 0)) {
+            if (!probe.advance(!compilers[OLD].hasNamesakes)) {
                 return NONE;
             }
         }

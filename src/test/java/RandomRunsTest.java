@@ -77,7 +77,10 @@ public final class RandomRunsTest {
         newShare = 10 + random.nextInt(70);
         boolean phased = random.nextInt(3) != 0;
         List<String> told = new ArrayList<>();
-        for (int k = 0; k < CALLS; k++) {
+        if (random.nextInt(3) == 0) {
+            removeMembers(told);
+        }
+        for (int k = told.size(); k < CALLS; k++) {
             int method = k % 64 == 63 ? METHODS.length - 1 : phased ? inPhase(k) : weighted(WEIGHTS);
             int[] a = arguments(method);
             String got = answer(false, method, a);
@@ -91,6 +94,15 @@ public final class RandomRunsTest {
             }
         }
         return true;
+    }
+
+    /** So that other members than those of the beginning have the lowest numbers. */
+    private void removeMembers(List<String> told) {
+        for (int k = 0; k < 16; k++) {
+            judge.removeMember(k % 2, 0);
+            reference.removeMember(k % 2, 0);
+            told.add("removeMember(" + k % 2 + ", 0)");
+        }
     }
 
     private static void note(int method, String answer) {

@@ -8,6 +8,8 @@ public final class SearchingTest {
         fieldOrder();
         method();
         methodOfInterfaces();
+        lowestClass();
+        methodAsMemberZero();
         selected();
         selectedOfInterfaces();
         DUE.end();
@@ -127,6 +129,56 @@ public final class SearchingTest {
         DUE.is("not for an interface", x.method(0, 6, 2), 8);
         x.define(0, 8, true, 0, 0);
         DUE.is("an interface without anything", x.method(0, 8, 2), -2);
+    }
+
+    /** The number of the class decides, not the number of the member. */
+    private static void lowestClass() {
+        CompatibilityJudge x = new CompatibilityJudge();
+        x.define(0, 5, true, 0, 0);
+        x.define(0, 6, true, 0, 0);
+        x.define(0, 7, true, 0, 0);
+        x.define(0, 8, false, 0, 0xE0);
+        x.addMethod(0, 6, 3, 3, 4);
+        x.addMethod(0, 5, 3, 3, 4);
+        x.addMethod(0, 7, 3, 3, 4);
+        DUE.is("three abstract ones", x.method(0, 8, 3), 9);
+        x.setMember(0, 8, 1, 0);
+        x.setMember(0, 10, 1, 0);
+        DUE.is("two that are not abstract", x.method(0, 8, 3), 9);
+        // Superclasses are gone through upward, in whatever order their methods were added.
+        x.define(0, 9, false, 3, 0);
+        x.addMethod(0, 9, 3, 3, 0);
+        x.addMethod(0, 1, 3, 3, 0);
+        x.addMethod(0, 3, 3, 3, 0);
+        DUE.is("the class's own", x.method(0, 9, 3), 11);
+        DUE.is("selected from above", x.selected(0, 12, 9), 11);
+        x.setMember(0, 11, 0, 0);
+        DUE.is("selected past a private one", x.selected(0, 12, 9), 13);
+        x.removeMember(0, 11);
+        DUE.is("the nearest superclass's", x.method(0, 9, 3), 12);
+    }
+
+    /** Member 0 is a method here, unlike at first. */
+    private static void methodAsMemberZero() {
+        CompatibilityJudge x = new CompatibilityJudge();
+        for (int k = 0; k < 4; k++) {
+            x.removeMember(0, 0);
+        }
+        x.draft(1, 0, 0, 0);
+        DUE.is("an interface's abstract method", x.method(0, 2, 2), 0);
+        x.removeMember(0, 1);
+        DUE.is("over the interface", x.method(0, 3, 2), 0);
+        DUE.is("incomplete", x.classInfo(0, 3, 9), 1);
+        x.setMember(0, 0, 1, 0);
+        DUE.is("the default", x.selected(0, 0, 3), 0);
+        x.setMember(0, 0, 1, 4);
+        x.moveMember(0, 0, 4);
+        DUE.state(x, "not abstract any more", () -> x.setClass(0, 4, 2, 0));
+        // Member 0 hides a method of class 1.
+        x.setMember(0, 0, 1, 0);
+        x.setMember(0, 0, 0, 2);
+        x.addMethod(0, 1, 2, 3, 0);
+        DUE.argument(x, "a call that finds nothing open", () -> x.addClient(2, 4, 2, 2));
     }
 
     private static void selected() {
