@@ -218,6 +218,12 @@ public final class EdgesOfClassesTest {
                 classInfo({0 1}, 9, {2 6 9}) -> 1
                 classInfo({0 1}, 9, 5) -> 4; classInfo({0 1}, 9, 8) -> 517
                 """);
+        EDGE.runs("setClass(0, 4, 0, 0); setClass(0, 3, 1, 1); define(0, 9, {false true}, 0, 0);", """
+                // The other classes keep what they have.
+                classInfo(0, {0 1 2 3}, 0) -> 1; classInfo(0, 4, 0) -> 0; classInfo(0, {0 1 2 4}, 1) -> 0; \
+                    classInfo(0, 3, 1) -> 1; classInfo(0, {2 4}, 2) -> 1; classInfo(0, {0 1 3}, 2) -> 0; \
+                    classInfo(0, 2, 6) -> 1; classInfo(0, {0 1 3 4}, 6) -> 0
+                """);
         // What the number was used for before is forgotten.
         EDGE.runs("setClass(0, 4, 1, 1); setClass(0, 4, 3, 3); setClass(0, 4, 5, 4); removeClass(0, 4);", """
                 define(0, 4, false, 0, 0) -> 5; classInfo(0, 4, {0..7}) -> 0; classInfo(0, 4, 8) -> 17
@@ -297,6 +303,12 @@ public final class EdgesOfClassesTest {
                     memberInfo(0, 5, 4) -> 4; exists(1, 3) -> true; members(1) -> 8
                 removeClass(1, 4) -> 1; members(1) -> 7; memberInfo(1, 6, 4) -> 3; memberInfo(1, 7, 4) -> index; \
                     members(0) -> 8
+                // The other classes keep what they have, whether they have it or not.
+                removeClass(0, 3); classInfo(0, {0 1 2 4}, 0) -> 1; classInfo(0, {0 1 2 4}, 1) -> 0; \
+                    classInfo(0, {2 4}, 2) -> 1; classInfo(0, {0 1}, 2) -> 0; classInfo(0, 2, 6) -> 1; \
+                    classInfo(0, {0 1 4}, 6) -> 0; classInfo(0, 4, 3) -> 1; classInfo(0, 4, 4) -> 1
+                setClass(0, 4, 0, 0); setClass(0, 4, 1, 1); removeClass(0, 3); classInfo(0, 4, 0) -> 0; \
+                    classInfo(0, 4, 1) -> 1
                 """);
 
         EDGE.promise(3, "Returns how many members were removed.");
@@ -333,7 +345,10 @@ public final class EdgesOfClassesTest {
                 setClass(0, 3, 5, 0); removeClass(0, 2) -> 1; removeClass(1, 2) -> state
                 define(0, 9, true, 0, 4); removeClass(0, 3); removeClass(0, 2) -> state; removeClass(0, 9); \
                     removeClass(0, 2) -> 1
-                define(0, 9, false, 3, 0); removeClass(0, 3) -> state; removeClass(0, 9) -> 0; removeClass(0, 3) -> 2
+                define(0, {5 9}, false, 3, 0); removeClass(0, 3) -> state; removeClass(0, {5 9}) -> 0; \
+                    removeClass(0, 3) -> 2
+                define(0, {5 9}, false, 4, 0); removeClass(0, 4) -> state
+                define(0, 5, true, 0, 0); define(0, {6 9}, {false true}, 0, 32); removeClass(0, 5) -> state
                 // A supertype that is not a direct one does not count.
                 define(0, 5, true, 0, 4); define(0, 6, false, 0, 32); removeClass(0, 3); removeClass(0, 2) -> state; \
                     setClass(0, 5, 5, 0); removeClass(0, 2) -> 1
@@ -353,6 +368,14 @@ public final class EdgesOfClassesTest {
                 setClass(0, 4, 3, 3); classInfo(0, 4, 3) -> 3; classInfo(1, 4, 3) -> 1; classInfo(0, {1 2 3}, 3) -> 0
                 setClass(0, 4, 4, 3); classInfo(0, 4, 4) -> 3; classInfo(1, 4, 4) -> 1; classInfo(0, 3, 4) -> 1
                 setClass(0, 4, 5, 4); classInfo(0, 4, 5) -> 4; classInfo(1, 4, 5) -> 0; classInfo(0, 3, 5) -> 4
+                // The other properties of the class stay: 4 is public, abstract, in package 1, below 1.
+                setClass(0, 4, {1 2 3 4 5}, 0); classInfo(0, 4, 0) -> 1
+                setClass(0, 4, {0 2 3 4 5}, 0); classInfo(0, 4, 1) -> 0; setClass(0, 4, 1, 1); classInfo(0, 4, 1) -> 1
+                setClass(0, 4, {0 1 3 4 5}, 0); classInfo(0, 4, 2) -> 1
+                setClass(0, 4, {0 1 2 4 5}, 0); classInfo(0, 4, 3) -> 1
+                setClass(0, 4, {0 1 2 3 5}, 0); classInfo(0, 4, 4) -> 1
+                setClass(0, 3, {0 1 2 3 4}, 0); classInfo(0, 3, 5) -> 4
+                setClass(0, 4, 4, 3); classInfo(0, 4, 5) -> 0; setClass(0, 4, 3, 3); classInfo(0, 4, 4) -> 3
                 """);
 
         EDGE.promise(4, "Returns the previous value.");
@@ -424,10 +447,13 @@ public final class EdgesOfClassesTest {
                 setClass({0 1}, 1, 1, 1) -> state
                 setClass(0, 1, 1, 0) -> 0; setClass(0, 3, 4, 0); setClass(0, 1, 1, 1) -> state; removeClass(0, 4); \
                     setClass(0, 1, 1, 1) -> 0; setClass(1, 1, 1, 1) -> state
-                define(0, 9, false, 4, 0); setClass(0, 4, 1, 1) -> state; setClass(0, 9, 1, 1) -> 0
+                define(0, {5 9}, false, 4, 0); setClass(0, 4, 1, 1) -> state; setClass(0, {5 9}, 1, 1) -> 0
                 addMethod(0, 4, 5, 3, 4) -> 8; setClass(0, 4, 2, 0) -> state; setClass(0, 4, 2, 1) -> 1; \
                     setClass(1, 4, 2, 0) -> 1; setMember(0, 8, 1, 0) -> 4; setClass(0, 4, 2, 0) -> 1
                 addMethod(0, 4, 5, 3, 4); setClass(0, 4, 1, 1) -> 0; removeMember(0, 8); setClass(0, 4, 2, 0) -> 1
+                // Also where the abstract method has the number 0.
+                moveMember(0, 4, 4); removeMember(0, 0); removeMember(0, 0); removeMember(0, 0); removeMember(0, 0); \
+                    memberInfo(0, 0, 1) -> 4; setClass(0, 4, 2, 0) -> state
                 // An abstract method of a supertype is not a method of the class.
                 removeMember(0, 5); setClass(0, 3, 2, 1) -> 0; setClass(0, 3, 2, 0) -> 1; classInfo(0, 3, 9) -> 1
                 """);

@@ -97,6 +97,7 @@ public final class EdgesOfClientsTest {
         EDGE.promise(20, "Adds a client with base 0. For a call, the argument types are the parameters of the draft.");
         EDGE.runs("""
                 addClient(3, 1, 0, {0..3}) -> 3; clientInfo(3, 4) -> 0; clientInfo(3, 3) -> {0..3}
+                setBase(0, 4); addClient(3, 1, 0, 0) -> 3; clientInfo(3, 4) -> 0; clientInfo(0, 4) -> 4
                 draft(9, 0, 0, 0); addClient(2, 1, 0, 0) -> 3; clientInfo(3, 5) -> 0
                 draft(9, 1, 1, 0); addClient(2, 1, 1, 0) -> 3; clientInfo(3, 5) -> 1; draft(9, 2, 9, 9); \
                     compile(3, 0) -> 0
@@ -124,7 +125,8 @@ public final class EdgesOfClientsTest {
         EDGE.promise(20, "Throws IllegalArgumentException if use, c, itsPackage or, for the uses 0 to 2, name is out "
                 + "of range, or compiling it with version 0 gives an error");
         EDGE.runs("""
-                addClient({outside 0 5}, 1, 0, 0) -> argument
+                addClient({outside 0 5}, {1 3}, 0, 0) -> argument
+                setMember(0, 4, 1, 0); addClient({outside 0 5}, 2, 0, 0) -> argument; addClient(5, 2, 0, 0) -> 3
                 addClient({0..5}, {outside 0 9}, 0, 0) -> argument
                 addClient({0..5}, {5..9}, 0, 0) -> argument
                 addClient({0..5}, {1 2}, 0, {outside 0 3}) -> argument

@@ -112,6 +112,11 @@ public final class EdgesOfCompilingTest {
                 define(0, 5, true, 0, 4); setMember(0, 4, 1, 1); setClass(0, 5, 0, 1); addClient(2, 5, 2, 2) -> argument
                 setMember(0, 2, 1, 1); setMember(0, 6, 0, 0); addClient(2, {1 3 4}, 0, 2) -> 3; clientInfo(3, 9) -> 1
                 """);
+        EDGE.runs("removeMember(0, 0); removeMember(0, 0);", """
+                // Also a method with the number 0: as a candidate, and as one that hides another.
+                addClient(2, {1 4}, 0, 2) -> 3
+                moveMember(0, 0, 4); addMethod(0, 1, 0, 3, 0); setMember(0, 0, 0, 1); addClient(2, 4, 0, 2) -> argument
+                """);
         EDGE.runs("setMember(0, 6, 0, {1 2});", """
                 // One that is not open hides another all the same, whatever its result, and also if it is static.
                 addClient(2, 3, 0, 2) -> argument; addClient(2, {1 4}, 0, 2) -> 3

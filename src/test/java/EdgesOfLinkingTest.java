@@ -363,6 +363,9 @@ public final class EdgesOfLinkingTest {
                     sample(1, 0, 4) -> {-1 0 9}; sample(1, 0, 5) -> NONE
                 draft(-1, 0, 0, 0); addMethod(0, 1, 7, 3, 0); sample(1, 0, 3) -> 0; sample(1, 0, 4) -> NONE; \
                     sample(1, 0, 5) -> NONE
+                // Lists of two begin at -1 again, behind lists of one that were all gone through.
+                draft(-1, 1, 9, 0); addMethod(0, 1, 7, 3, 0); addMethod(1, 1, 7, 3, 0); draft(-1, 2, {-1 0 8}, 9); \
+                    addMethod(0, 1, 7, 3, 0); sample(1, 0, 3) -> 2; sample(1, 0, 4) -> {-1 0 8}; sample(1, 0, 5) -> 9
                 // A name before comes first, with whatever arguments.
                 draft(-1, 2, {8 9}, {8 9 }); addMethod(0, 1, 6, 3, 0); sample(1, 0, 2) -> 6; \
                     sample(1, 0, 4) -> {8 9}; sample(1, 0, 5) -> {8 9 }
@@ -370,6 +373,11 @@ public final class EdgesOfLinkingTest {
                 draft(-1, 2, 0, 0); addMethod(0, 1, 7, 3, 0); sample(1, 0, 4) -> 0; sample(1, 0, 5) -> 0; \
                     removeMember(0, 9); draft(-1, 2, 2, 1); addMethod(0, 1, 7, 3, 0); sample(1, 0, 4) -> 2; \
                     sample(1, 0, 5) -> 1
+                """);
+        EDGE.runs(Edge.repeat(6, "removeMember(0, 2)") + "draft(-1, {1 2}, {0 3 9}, {0 3 9});", """
+                // The only method that there is in the old version, and none of its name in the new one.
+                addMethod(0, 1, 7, 3, 0); sample(1, 0, 0) -> 2; sample(1, 0, 1) -> 1; sample(1, 0, 2) -> 7; \
+                    sample(1, 0, 3) -> {1 2}; sample(1, 0, 4) -> {0 3 9}
                 """);
         EDGE.runs("draft(-1, 2, 1, 1); addMethod(0, 1, 7, 3, 0); addMethod(1, 1, 7, 3, 0);", """
                 // A verdict that only some lists of arguments have: the first one in order is found.
@@ -389,8 +397,9 @@ public final class EdgesOfLinkingTest {
                 // What does not compile with version 0 is no sample: a closed class, a closed field.
                 setMember(0, 0, 0, 1); removeMember(1, 0); sample(1, 0, 0) -> 0; sample(1, {1 2 3}, 0) -> NONE
                 setClass(0, 4, 0, 0); removeClass(1, 4); sample(1, 1, 0) -> 0; sample(1, {0 2 3}, 0) -> NONE
-                // A protected one is closed too, because the base is 0.
+                // A protected one is closed too, because the base is 0, whatever bases there are.
                 setMember(0, 0, 0, 2); removeMember(1, 0); sample(1, {1 2 3}, 0) -> NONE
+                setBase({0 1 2}, 4); setMember(0, 0, 0, 2); removeMember(1, 0); sample(1, {1 2 3}, 0) -> NONE
                 """);
     }
 

@@ -77,6 +77,10 @@ public final class EdgesOfMembersTest {
                     memberInfo(0, 0, 3) -> 0; memberInfo(0, 2, 0) -> 2; memberInfo(0, 2, 3) -> 1; \
                     memberInfo(0, 2, 7) -> 1; memberInfo(0, 2, 8) -> 1; memberInfo(0, 3, 1) -> 4; \
                     memberInfo(0, 3, 6) -> 1; memberInfo(0, 3, 4) -> 2
+                draft(5, 2, 6, 7); addMethod(0, 3, 5, 3, 0) -> 10; removeMember(0, {0 9}) -> 10; \
+                    memberInfo(0, 9, 5) -> 5; memberInfo(0, 9, 6) -> 5; memberInfo(0, 9, 7) -> 2; \
+                    memberInfo(0, 9, 8) -> 6; memberInfo(0, 9, 9) -> 7; method(0, 3, 5) -> 9; \
+                    addMethod(0, 3, 5, 3, 0) -> state
                 """);
     }
 
@@ -140,6 +144,9 @@ public final class EdgesOfMembersTest {
                     draft(-1, 2, 1, 1); addMethod(0, 1, 1, 3, 0) -> 10; draft(-1, 1, -1, 0); \
                     addMethod(0, 1, 1, 3, 0) -> 11; draft(-1, 0, 0, 0); addMethod(0, 1, 1, 3, 0) -> 12
                 draft(-1, 2, -1, 0); addMethod(0, 1, 0, 3, 0) -> 8; draft(-1, 2, 0, -1); addMethod(0, 1, 0, 3, 0) -> 9
+                // Also where the member that is in the way has the number 0.
+                removeMember(0, 0); removeMember(0, 0); addMethod(0, 1, 0, 3, 0) -> state; addMethod(0, 1, 1, 3, 0) -> 6
+                addField(0, 1, 0, 3, 0) -> state; removeMember(0, 1); addField(0, 1, 0, 3, 0) -> state
                 // Where the number is free again, it can be used again.
                 removeMember(0, 2); addMethod(0, 1, 0, 3, 0) -> 7; addMethod(0, 1, 0, 3, 0) -> state
                 removeMember(0, 0); addField(0, 1, 0, 3, 0) -> 7; addField(0, 1, 0, 3, 0) -> state

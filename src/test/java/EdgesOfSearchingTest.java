@@ -121,6 +121,13 @@ public final class EdgesOfSearchingTest {
                 addMethod(0, 6, 2, 3, {0 4}); method(0, 7, 2) -> 8; method(0, 5, 2) -> 4
                 // One that is not abstract but not maximal is not taken.
                 setMember(0, 4, 1, 0); addMethod(0, 5, 2, 3, 4); method(0, 7, 2) -> 8; selected(0, 8, 7) -> NONE
+                // Two that are maximal hide what is above one of them, in whatever order they were added.
+                setClass(0, 6, 5, 0); setMember(0, 4, 1, 0); addMethod(0, 5, 2, 3, 4) -> 8; \
+                    addMethod(0, 6, 2, 3, 4) -> 9; method(0, 7, 2) -> 8; selected(0, {4 8 9}, 7) -> NONE
+                setClass(0, 6, 5, 0); setMember(0, 4, 1, 0); addMethod(0, 6, 2, 3, 4) -> 8; \
+                    addMethod(0, 5, 2, 3, 4) -> 9; method(0, 7, 2) -> 9; selected(0, {4 8 9}, 7) -> NONE
+                setClass(0, 5, 5, 0); setMember(0, 4, 1, 0); addMethod(0, 6, 2, 3, 4) -> 8; \
+                    addMethod(0, 5, 2, 3, 4) -> 9; method(0, 7, 2) -> 9; selected(0, {4 8 9}, 7) -> NONE
                 // A static one takes no other's place.
                 addMethod(0, 5, 2, 3, 1); method(0, 7, 2) -> 4
                 // Nor does one with another result.
@@ -160,6 +167,12 @@ public final class EdgesOfSearchingTest {
                 // A superclass's method comes before an interface's.
                 draft(1, 0, 0, 0); removeMember(0, 5); addMethod(0, 1, 2, 0, 1) -> 7; method(0, 3, 2) -> 7; \
                     method(0, 2, 2) -> 4
+                // The nearest superclass counts, in whatever order the methods were added.
+                define(0, 9, false, 3, 0); addMethod(0, 9, 5, 3, 0) -> 8; addMethod(0, 1, 5, 3, 0) -> 9; \
+                    addMethod(0, 3, 5, 3, 0) -> 10; method(0, 9, 5) -> 8; method(0, 3, 5) -> 10; \
+                    method(0, {1 4}, 5) -> 9; removeMember(0, 8); method(0, 9, 5) -> 9
+                define(0, 9, false, 3, 0); addMethod(0, 3, 5, 3, 0) -> 8; addMethod(0, 1, 5, 3, 0) -> 9; \
+                    method(0, {3 9}, 5) -> 8; method(0, {1 4}, 5) -> 9
                 // The same name with another descriptor is passed over.
                 draft({0..9}, 0, 0, 0); method(0, {1 3 4}, 0) -> NONE
                 draft(-1, 1, 3, 0); method(0, 4, 1) -> 7; method(0, 3, 1) -> NONE; draft(-1, 1, 1, 0); \
@@ -176,6 +189,11 @@ public final class EdgesOfSearchingTest {
                 """);
         EDGE.runs(Edge.repeat(8, "removeMember(0, 0)"), "method(0, {0..4}, {0..7}) -> NONE");
         EDGE.runs("removeMember(0, 0); removeMember(0, 0);", "method(0, 1, 0) -> 0; selected(0, 0, 1) -> 0");
+        EDGE.runs(Edge.repeat(4, "removeMember(0, 0)") + "removeMember(0, 1); draft(1, 0, 0, 0);", """
+                // An interface's method with the number 0.
+                method(0, {2 3}, 2) -> 0; selected(0, 0, 3) -> NONE; classInfo(0, {2 3}, 9) -> 1; \
+                    setMember(0, 0, 1, 0); method(0, {2 3}, 2) -> 0; selected(0, 0, 3) -> 0; classInfo(0, {2 3}, 9) -> 0
+                """);
 
         EDGE.promise(18, "Throws IndexOutOfBoundsException if there is no such version or class");
         EDGE.runs("""
@@ -203,6 +221,10 @@ public final class EdgesOfSearchingTest {
                 setMember(0, 6, 1, {1 3}); selected(0, 2, 3) -> 2
                 setMember(0, 6, 1, 2); selected(0, 2, 3) -> 6
                 setClass(0, 3, 2, 1); setMember(0, 6, 1, 4); selected(0, 2, 3) -> 6
+                // The nearest superclass counts, in whatever order the methods were added.
+                define(0, 9, false, 3, 0); addMethod(0, 9, 5, 3, 0) -> 8; addMethod(0, 1, 5, 3, 0) -> 9; \
+                    addMethod(0, 3, 5, 3, 0) -> 10; selected(0, {8 9 10}, 9) -> 8; selected(0, {9 10}, 3) -> 10; \
+                    setMember(0, 8, 0, 0); selected(0, {9 10}, 9) -> 10; setMember(0, 10, 1, 1); selected(0, 9, 9) -> 9
                 // Another result is another descriptor.
                 removeMember(0, 6); draft(0, 0, 0, 0); addMethod(0, 3, 0, 3, 0); selected(0, 2, 3) -> 2
                 define(0, 9, false, 3, 0); selected(0, 2, 9) -> 6; addMethod(0, 9, 0, 1, 0); selected(0, 2, 9) -> 8; \
@@ -216,6 +238,11 @@ public final class EdgesOfSearchingTest {
         EDGE.runs("""
                 removeMember(0, 5); selected(0, 4, 3) -> NONE; setMember(0, 4, 1, 0); selected(0, 4, 3) -> 4
                 setMember(0, 5, 0, 0); selected(0, 4, 3) -> NONE; setMember(0, 4, 1, 0); selected(0, 4, 3) -> 4
+                // An interface that is no supertype has no candidate.
+                define(0, 5, true, 0, 4); removeMember(0, 5); draft(1, 0, 0, 0); addMethod(0, 5, 2, 3, 0) -> 7; \
+                    selected(0, 4, 3) -> NONE; classInfo(0, 3, 9) -> 1; setMember(0, 4, 1, 0); selected(0, 4, 3) -> 4
+                define(0, 5, true, 0, 4); draft(1, 0, 0, 0); addMethod(0, 5, 2, 3, 0) -> 8; removeMember(0, 5); \
+                    method(0, 3, 2) -> 4
                 """);
         EDGE.runs(DIAMOND, """
                 selected(0, 4, 7) -> NONE

@@ -114,7 +114,10 @@ final class Edge {
         }
     }
 
-    /** A run for each value of a choice in braces; choices that are written alike have the same value in a run. */
+    /**
+     * A run for each value of a choice in braces. Choices that are written alike have the same value in a run, so that
+     * {0 1} and {0 1 }, with a space more, are two choices.
+     */
     private void expand(String calls) {
         int open = calls.indexOf('{');
         int close = calls.indexOf('}');
